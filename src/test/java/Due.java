@@ -2,15 +2,21 @@
 final class Due {
     private static int wrong = 0;
     private static int asked = 0;
+    private static String sentence = "";
 
     private Due() {
+    }
+
+    /** What is asked from now on belongs to this sentence of the document. */
+    static void under(String words) {
+        sentence = "[" + words + "] ";
     }
 
     static void is(String call, long got, long want) {
         asked++;
         if (got != want) {
             wrong++;
-            System.out.println(call + " answered " + got + ", due is " + want);
+            System.out.println(sentence + call + " answered " + got + ", due is " + want);
         }
     }
 
@@ -22,7 +28,7 @@ final class Due {
         asked++;
         if (!isSo) {
             wrong++;
-            System.out.println("does not hold: " + what);
+            System.out.println(sentence + "does not hold: " + what);
         }
     }
 

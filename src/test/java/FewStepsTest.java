@@ -1,5 +1,4 @@
 import java.io.IOException;
-import java.lang.reflect.Field;
 import java.nio.file.Files;
 import java.nio.file.Path;
 import java.util.Random;
@@ -13,7 +12,6 @@ public final class FewStepsTest {
     private static final int CELLS = 200;
     // Filling asks 400 calls, and an object has 512.
     private static final int TAKES = 25;
-    private static final Field STEPS = field("steps");
 
     private final SkewMelds x = new SkewMelds();
     private final int[] sizes = new int[8];
@@ -35,32 +33,6 @@ public final class FewStepsTest {
         Due.end();
     }
 
-    private static Field field(String name) {
-        try {
-            Field field = SkewMelds.class.getDeclaredField(name);
-            field.setAccessible(true);
-            return field;
-        } catch (NoSuchFieldException e) {
-            throw new IllegalStateException(e);
-        }
-    }
-
-    private static int steps(SkewMelds x) {
-        try {
-            return STEPS.getInt(x);
-        } catch (IllegalAccessException e) {
-            throw new IllegalStateException(e);
-        }
-    }
-
-    private static void setSteps(SkewMelds x, int steps) {
-        try {
-            STEPS.setInt(x, steps);
-        } catch (IllegalAccessException e) {
-            throw new IllegalStateException(e);
-        }
-    }
-
     private static void rowIsTouchedInTwoPlacesOnly() throws IOException {
         String source = Files.readString(Path.of("src/main/java/SkewMelds.java"));
         Due.is("how often the source touches an element of the row", source.split("row\\[", -1).length - 1, 2);
@@ -75,13 +47,13 @@ public final class FewStepsTest {
     }
 
     private static void fewAt(String call, SkewMelds x, int bound) {
-        Due.holds(call + " takes some steps", steps(x) > 0);
-        setSteps(x, bound);
+        Due.holds(call + " takes some steps", Steps.of(x) > 0);
+        Steps.set(x, bound);
         Due.is("few() at the bound of " + call, x.few(), true);
     }
 
     private static void notFewBeyond(String call, SkewMelds x, int bound) {
-        setSteps(x, bound + 1);
+        Steps.set(x, bound + 1);
         Due.is("few() beyond the bound of " + call, x.few(), false);
         Due.is("few() after that few()", x.few(), true);
     }
@@ -122,7 +94,7 @@ public final class FewStepsTest {
         x.heap();
         for (int other = 0; other < 5; other++) {
             x.add(0, 1);
-            setSteps(x, 101);
+            Steps.set(x, 101);
             switch (other) {
                 case 0 -> x.heap();
                 case 1 -> x.size(0);
@@ -133,13 +105,13 @@ public final class FewStepsTest {
             Due.is("few() after another call " + other, x.few(), true);
         }
         x.add(0, 1);
-        setSteps(x, 101);
+        Steps.set(x, 101);
         x.add(9, 1);
         Due.is("few() after a refused call", x.few(), true);
     }
 
     private void few(String call, int bound) {
-        Due.holds(call + " took " + steps(x) + " steps, " + bound + " at most", steps(x) <= bound);
+        Due.holds(call + " took " + Steps.of(x) + " steps, " + bound + " at most", Steps.of(x) <= bound);
         Due.is("few() after " + call, x.few(), true);
     }
 

@@ -1,7 +1,7 @@
 /** Each promise by itself: ordinary inputs, the edges that the document names, and wrong inputs. */
 public final class PromisesTest {
-    private static final long NO_KEY = Long.MIN_VALUE;
-    private static final int CELLS = 200;
+    private static final long NO_KEY = Made.NO_KEY;
+    private static final int CELLS = Made.CELLS;
     private static final int[] NO_HEAP = {-1, 2, 7, 8, 9, 64, Integer.MIN_VALUE, Integer.MAX_VALUE};
 
     public static void main(String[] args) {
@@ -21,22 +21,6 @@ public final class PromisesTest {
         few();
         refusedChangesNothing();
         Due.end();
-    }
-
-    private static SkewMelds withHeaps(int heaps) {
-        SkewMelds x = new SkewMelds();
-        for (int i = 0; i < heaps; i++) {
-            x.heap();
-        }
-        return x;
-    }
-
-    private static SkewMelds withKeys(int... keys) {
-        SkewMelds x = withHeaps(2);
-        for (int key : keys) {
-            x.add(0, key);
-        }
-        return x;
     }
 
     private static void takesInOrder(String what, SkewMelds x, int heap, long... keys) {
@@ -81,7 +65,7 @@ public final class PromisesTest {
     }
 
     private static void add() {
-        SkewMelds x = withHeaps(2);
+        SkewMelds x = Made.withHeaps(2);
         Due.is("add(0, 5)", x.add(0, 5), 1);
         Due.is("add(0, 5) again", x.add(0, 5), 2);
         Due.is("add(1, MIN)", x.add(1, Integer.MIN_VALUE), 1);
@@ -94,7 +78,7 @@ public final class PromisesTest {
     }
 
     private static void addWhenFull() {
-        SkewMelds x = withHeaps(3);
+        SkewMelds x = Made.withHeaps(3);
         for (int i = 0; i < CELLS; i++) {
             Due.is("add until full", x.add(i % 2, -i), i / 2 + 1);
         }
@@ -109,7 +93,7 @@ public final class PromisesTest {
     }
 
     private static void least() {
-        SkewMelds x = withKeys(4, 9, 4, -3, 7);
+        SkewMelds x = Made.withKeys(4, 9, 4, -3, 7);
         Due.is("least(0)", x.least(0), -3);
         Due.is("least(0) again", x.least(0), -3);
         Due.is("size after least", x.size(0), 5);
@@ -125,11 +109,11 @@ public final class PromisesTest {
     }
 
     private static void take() {
-        takesInOrder("take", withKeys(3, 1, 2), 0, 1, 2, 3);
-        takesInOrder("take of equal keys", withKeys(2, 2, 1, 1, 2), 0, 1, 1, 2, 2, 2);
-        takesInOrder("take of edges", withKeys(0, Integer.MAX_VALUE, Integer.MIN_VALUE, -1), 0,
+        takesInOrder("take", Made.withKeys(3, 1, 2), 0, 1, 2, 3);
+        takesInOrder("take of equal keys", Made.withKeys(2, 2, 1, 1, 2), 0, 1, 1, 2, 2, 2);
+        takesInOrder("take of edges", Made.withKeys(0, Integer.MAX_VALUE, Integer.MIN_VALUE, -1), 0,
                 Integer.MIN_VALUE, -1, 0, Integer.MAX_VALUE);
-        SkewMelds x = withKeys(6);
+        SkewMelds x = Made.withKeys(6);
         Due.is("take of no keys", x.take(1), NO_KEY);
         for (int heap : NO_HEAP) {
             Due.is("take(" + heap + ")", x.take(heap), NO_KEY);
@@ -141,7 +125,7 @@ public final class PromisesTest {
     }
 
     private static void takeGivesCellsBack() {
-        SkewMelds x = withHeaps(1);
+        SkewMelds x = Made.withHeaps(1);
         for (int i = 0; i < CELLS; i++) {
             x.add(0, i * 37 % CELLS);
         }
@@ -153,7 +137,7 @@ public final class PromisesTest {
     }
 
     private static void meld() {
-        SkewMelds x = withKeys(5, 1, 9);
+        SkewMelds x = Made.withKeys(5, 1, 9);
         x.add(1, 4);
         x.add(1, 1);
         Due.is("meld(0, 1)", x.meld(0, 1), 5);
@@ -170,7 +154,7 @@ public final class PromisesTest {
     }
 
     private static void meldRefused() {
-        SkewMelds x = withKeys(5, 1);
+        SkewMelds x = Made.withKeys(5, 1);
         Due.is("meld(0, 0)", x.meld(0, 0), -1);
         Due.is("meld(1, 1)", x.meld(1, 1), -1);
         for (int heap : NO_HEAP) {
@@ -182,7 +166,7 @@ public final class PromisesTest {
     }
 
     private static void size() {
-        SkewMelds x = withHeaps(2);
+        SkewMelds x = Made.withHeaps(2);
         for (int i = 1; i <= 20; i++) {
             x.add(1, 7);
             Due.is("size(1)", x.size(1), i);
@@ -194,7 +178,7 @@ public final class PromisesTest {
     }
 
     private static void key() {
-        SkewMelds x = withKeys(8, Integer.MIN_VALUE, 3, Integer.MAX_VALUE, 3, 0, -1);
+        SkewMelds x = Made.withKeys(8, Integer.MIN_VALUE, 3, Integer.MAX_VALUE, 3, 0, -1);
         long[] sorted = {Integer.MIN_VALUE, -1, 0, 3, 3, 8, Integer.MAX_VALUE};
         for (int k = 0; k < sorted.length; k++) {
             Due.is("key(0, " + k + ")", x.key(0, k), sorted[k]);
@@ -210,13 +194,13 @@ public final class PromisesTest {
     }
 
     private static void sum() {
-        SkewMelds x = withKeys(8, -3, 3, 3);
+        SkewMelds x = Made.withKeys(8, -3, 3, 3);
         Due.is("sum(0)", x.sum(0), 11);
         Due.is("sum of no keys", x.sum(1), 0);
         for (int heap : NO_HEAP) {
             Due.is("sum(" + heap + ")", x.sum(heap), 0);
         }
-        SkewMelds large = withHeaps(2);
+        SkewMelds large = Made.withHeaps(2);
         for (int i = 0; i < CELLS / 2; i++) {
             large.add(0, Integer.MAX_VALUE);
             large.add(1, Integer.MIN_VALUE);
@@ -230,7 +214,7 @@ public final class PromisesTest {
     }
 
     private static void free() {
-        SkewMelds x = withHeaps(2);
+        SkewMelds x = Made.withHeaps(2);
         Due.is("free()", x.free(), CELLS);
         for (int i = 1; i <= CELLS; i++) {
             x.add(i % 2, i);
@@ -300,14 +284,14 @@ public final class PromisesTest {
     }
 
     private static void refusedChangesNothing() {
-        SkewMelds x = withHeaps(8);
+        SkewMelds x = Made.withHeaps(8);
         for (int i = 0; i < 20; i++) {
             x.add(i % 3, i * 7 % 11);
         }
         String before = seen(x);
         refuse(x);
         Due.holds("a refused call changes nothing", before.equals(seen(x)));
-        SkewMelds full = withHeaps(8);
+        SkewMelds full = Made.withHeaps(8);
         for (int i = 0; i < CELLS; i++) {
             full.add(0, i);
         }
